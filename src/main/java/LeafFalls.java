@@ -949,29 +949,23 @@ public final class LeafFalls {
             fault = -1;
             step();
             for (int i = 0; i < TAPE && sort != END && fault < 0; i++) {
-                readOne(tree);
+                int law = lawNamed();
+                int kind = kindNamed();
+                if (law >= 0) {
+                    readLaw(tree, law);
+                } else if (isName("sway")) {
+                    readSway(tree);
+                } else if (kind >= 0 && tree.count < LEAVES) {
+                    readLeaf(tree, kind);
+                } else {
+                    fault = start;
+                }
             }
             return fault;
         }
 
-        private void readOne(Tree tree) {
-            int law = lawNamed();
-            int kind = kindNamed();
-            if (law >= 0) {
-                step();
-                readLaw(tree, law);
-            } else if (isName("sway")) {
-                step();
-                readSway(tree);
-            } else if (kind >= 0 && tree.count < LEAVES) {
-                step();
-                readLeaf(tree, kind);
-            } else {
-                fault = start;
-            }
-        }
-
         private void readLaw(Tree tree, int law) {
+            step();
             int v = number(mostOfLaw(law));
             if (v >= 0 && passSemicolon()) {
                 tree.laws[law] = v;
@@ -979,6 +973,7 @@ public final class LeafFalls {
         }
 
         private void readSway(Tree tree) {
+            step();
             int bough = number(BOUGHS - 1);
             if (bough < 0 || !passName("is")) {
                 return;
@@ -990,6 +985,7 @@ public final class LeafFalls {
         }
 
         private void readLeaf(Tree tree, int kind) {
+            step();
             if (!passName("on")) {
                 return;
             }
@@ -1158,97 +1154,84 @@ public final class LeafFalls {
         }
     }
 
-    /**
-     * The acts of one thing. Each ..As method runs the body that a thing of the kind `as` has: a body reaches
-     * what stands above it by the kind above, and the thing's own bodies by its kind.
-     */
+    /** One thing, its acts, and their trace. A kind's body runs around the body above it: it begins first and ends last. */
     private static final class Acts {
         int kind;
         int n;
         int a;
         final int[] ran = new int[BODIES];
         int ranCount;
+        /** Something was parted by 0: then nothing begins any more. */
         private boolean parted;
 
         int perform(int act, int x) {
             parted = false;
             int answer;
             switch (act) {
-                case TURNS: answer = turnsAs(kind, x); break;
-                case NAMES: answer = namesAs(kind, x); break;
-                case PARTS: answer = partsAs(kind, x); break;
-                case LANDS: answer = landsAs(kind, x); break;
+                case TURNS: answer = turns(x); break;
+                case NAMES: answer = names(x); break;
+                case PARTS: answer = parts(x); break;
+                case LANDS: answer = lands(x); break;
                 default: answer = 0;
             }
             return parted ? BY_ZERO : answer;
         }
 
-        private int turnsAs(int as, int x) {
-            switch (as) {
-                case YELLOW:
-                    began(30);
-                    return turnsAs(LEAF, x) ^ 1;
-                case GOLD:
-                    began(40);
-                    return turnsAs(YELLOW, x) * 2;
-                case SCARLET:
-                    began(51);
-                    return turnsAs(RED, x) + a;
-                default:
-                    began(10);
-                    return x * 2 + n * 5;
+        private int turns(int x) {
+            began(40, kind == GOLD);
+            began(30, isUnder(kind, YELLOW));
+            began(51, kind == SCARLET);
+            began(10, true);
+            int v = x * 2 + n * 5;
+            if (isUnder(kind, YELLOW)) {
+                v ^= 1;
             }
+            if (kind == GOLD) {
+                v *= 2;
+            }
+            return kind == SCARLET ? v + a : v;
         }
 
-        private int namesAs(int as, int x) {
-            switch (as) {
-                case RED:
-                case SCARLET:
-                    began(20);
-                    return namesAs(LEAF, x) + 7;
-                case GOLD:
-                    began(41);
-                    return namesAs(YELLOW, x) - turnsAs(kind, a);
-                default:
-                    began(11);
-                    return turnsAs(kind, x) - a;
+        private int names(int x) {
+            began(41, kind == GOLD);
+            began(20, isUnder(kind, RED));
+            began(11, true);
+            int v = turns(x) - a;
+            if (isUnder(kind, RED)) {
+                v += 7;
             }
+            return kind == GOLD ? v - turns(a) : v;
         }
 
-        private int partsAs(int as, int x) {
-            switch (as) {
-                case SCARLET:
-                    began(50);
-                    return 0 - partsAs(RED, x + 3);
-                case EVERGREEN:
-                    began(61);
-                    int above = partsAs(LEAF, x);
-                    // what is parted by 0 ends the whole act: nothing begins behind it
-                    return parted ? 0 : above + turnsAs(kind, n);
-                default:
-                    began(12);
-                    parted = a == n;
-                    return parted ? 0 : x / (a - n);
+        private int parts(int x) {
+            began(50, kind == SCARLET);
+            began(61, kind == EVERGREEN);
+            began(12, true);
+            int by = a - n;
+            if (by == 0) {
+                parted = true;
+                return 0;
             }
+            int v = (kind == SCARLET ? x + 3 : x) / by;
+            if (kind == EVERGREEN) {
+                return v + turns(n);
+            }
+            return kind == SCARLET ? 0 - v : v;
         }
 
-        private int landsAs(int as, int x) {
-            switch (as) {
-                case YELLOW:
-                case GOLD:
-                    began(31);
-                    return landsAs(LEAF, x) - partsAs(kind, n);
-                case EVERGREEN:
-                    began(60);
-                    return landsAs(LEAF, x) ^ x;
-                default:
-                    began(13);
-                    return namesAs(kind, x) ^ 20;
+        private int lands(int x) {
+            began(31, isUnder(kind, YELLOW));
+            began(60, kind == EVERGREEN);
+            began(13, true);
+            int v = names(x) ^ 20;
+            if (isUnder(kind, YELLOW)) {
+                return v - parts(n);
             }
+            return kind == EVERGREEN ? v ^ x : v;
         }
 
-        private void began(int body) {
-            if (ranCount < BODIES) {
+        private void began(int body, boolean isItsOwn) {
+            if (isItsOwn && ranCount < BODIES) {
                 ran[ranCount] = body;
                 ranCount++;
             }

@@ -13,6 +13,7 @@ public final class ActsTest {
         evergreen();
         wraps();
         partedByZero();
+        everyShelf();
         nothingActs();
         trace();
         many();
@@ -140,6 +141,17 @@ public final class ActsTest {
         DUE.due("act(" + shelf + ", " + act + ", 5)", () -> x.act(shelf, act, 5), 0);
         DUE.due("many(6) then", x.many(6), 0);
         DUE.due("trace(0) then", x.trace(0), -3);
+    }
+
+    private static void everyShelf() {
+        DUE.promise(42, "act");
+        LeafFalls x = thing(0, 7, 5);
+        for (int shelf = 0; shelf < 4; shelf++) {
+            x.shelf(shelf, 0, 2 * shelf + 1);
+        }
+        for (int shelf = 0; shelf < 4; shelf++) {
+            DUE.due("act(" + shelf + ", 0, 3)", x.act(shelf, 0, 3), 6 + 5 * (2 * shelf + 1));
+        }
     }
 
     private static void nothingActs() {

@@ -180,8 +180,10 @@ public final class SheetsTest {
         DUE.due("sheet(0, 0, 40)", x.sheet(0, 0, 40), 1);
         DUE.due("put(0, 39, 5)", x.put(0, 39, 5), 1);
         DUE.due("item(0, 0, 39)", x.item(0, 0, 39), 5);
+        DUE.due("put(0, 0, 5)", x.put(0, 0, 5), 1);
         DUE.due("sheet(0, 0, 40) again", x.sheet(0, 0, 40), 1);
         DUE.due("item(0, 0, 39)", x.item(0, 0, 39), 0);
+        DUE.due("item(0, 0, 0)", x.item(0, 0, 0), 0);
         DUE.due("put(0, 2, 5)", x.put(0, 2, 5), 1);
         DUE.due("sheet(0, 3, 3)", x.sheet(0, 3, 3), 1);
         DUE.due("item(0, 3, 2)", x.item(0, 3, 2), 0);

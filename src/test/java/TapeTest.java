@@ -138,9 +138,10 @@ public final class TapeTest {
         x.set(3, 7);
         x.sway(4, 9);
         x.days(3);
-        x.seed(77);
+        x.seed(66);
         x.keep();
         x.prove(0, 4);
+        x.seed(77);
         x.sheet(1, 2, 3);
         x.put(1, 0, 12);
         x.shelf(0, 0, 0);
@@ -185,6 +186,12 @@ public final class TapeTest {
         answers("5", -100);
         answers("leafs on 1;", -100);
         answers("leafon 1;", -100);
+        answers("leafz on 1;", -100);
+        answers("leafa on 1;", -100);
+        answers("leaf{ on 1;", -104);
+        answers("leaf` on 1;", -104);
+        answers("leaf on 1:", -109);
+        answers("leaf on 1/", -109);
         answers("lea", -100);
         answers("Leaf on 1;", -100);
         answers("lEaf on 1;", -100);
@@ -278,6 +285,11 @@ public final class TapeTest {
         String full = "leaf on 1" + " ".repeat(191);
         answers(full, -300);
         answers("leaf on 1" + " ".repeat(190) + ";", 1);
+        answers(" ".repeat(196) + "leaf", -300);
+        answers(" ".repeat(193) + "leaf on", -300);
+        answers(" ".repeat(197) + "lea", -297);
+        answers(" ".repeat(193) + "wind 9;", 0);
+        answers(" ".repeat(195) + "wet 9", -300);
         answers(" ".repeat(200), 0);
         answers("a".repeat(200), -100);
         answers("wind " + "1".repeat(195), -105);

@@ -13,6 +13,7 @@ public final class TriedTest {
         kindFor();
         holdFor();
         tiedFor();
+        tiedForAll();
         tiedDoNotShield();
         fits();
         odds();
@@ -89,6 +90,9 @@ public final class TriedTest {
         LeafFalls y = Due.told("leaf on 0 hold 60; leaf on 0 hold 61; leaf on 1 hold 99; wind 0; sway 0 is 0; sway 1 is 0;");
         // two don't fall within 60 days: the least of them
         DUE.keeps("latest()", y, y::latest, 1);
+        y.hold(0, 61);
+        DUE.keeps("latest()", y, y::latest, 0);
+        y.hold(0, 60);
         y.hold(1, 59);
         DUE.keeps("latest()", y, y::latest, 2);
         y.hold(2, 58);
@@ -192,6 +196,10 @@ public final class TriedTest {
         DUE.keeps("tiedFor(0, 21)", x, () -> x.tiedFor(0, 21), -1);
         DUE.keeps("tiedFor(2, 1)", x, () -> x.tiedFor(2, 1), -1);
         DUE.keeps("tiedFor(-1, 1)", x, () -> x.tiedFor(-1, 1), -1);
+        // what was tied then is not tied when something else is tried
+        x.tiedFor(0, 20);
+        DUE.keeps("falls(1)", x, () -> x.falls(1), 2);
+        DUE.keeps("bare()", x, x::bare, 3);
         // of several sets of one the least
         LeafFalls y = Due.told("leaf on 0 hold 2; yellow on 0 hold 1; leaf on 0 hold 2; wind 0; sway 0 is 0;");
         DUE.keeps("tiedFor(1, 20)", y, () -> y.tiedFor(1, 20), 1);
@@ -212,6 +220,16 @@ public final class TriedTest {
         }
         z.hold(0, 0);
         DUE.keeps("tiedFor(0, 1) without hold", z, () -> z.tiedFor(0, 1), -3);
+    }
+
+    /** Yellow loses 8 less its mates, and each mate that isn't tied falls within days: all seven are wanted. */
+    private static void tiedForAll() {
+        DUE.promise(28, "tiedFor");
+        LeafFalls x = Due.told("yellow on 0 hold 21;" + "leaf on 0 hold 1;".repeat(7) + "wind 6;");
+        DUE.keeps("tiedFor(0, 20)", x, () -> x.tiedFor(0, 20), 254);
+        x.hold(0, 20);
+        DUE.keeps("tiedFor(0, 19)", x, () -> x.tiedFor(0, 19), 254);
+        DUE.keeps("tiedFor(0, 20)", x, () -> x.tiedFor(0, 20), -3);
     }
 
     /** Tied ones don't fall: they are no candidates, and so another one falls instead of them. They gain nothing either. */
@@ -244,6 +262,13 @@ public final class TriedTest {
             LeafFalls any = withSheet(one, sort, -1, -1, 10);
             DUE.keeps("fits(2, 0, 0) of any", any, () -> any.fits(2, 0, 0), 100 - 4);
             DUE.keeps("fits(2, 0, 1) of any", any, () -> any.fits(2, 0, 1), 0);
+        }
+        for (int sheet = 0; sheet < 4; sheet++) {
+            LeafFalls x = Due.told(one);
+            int s = sheet;
+            x.sheet(s, 1, 1);
+            x.put(s, 0, 10);
+            DUE.keeps("fits(" + s + ", 0, 0)", x, () -> x.fits(s, 0, 0), 95);
         }
         LeafFalls none = withSheet(one, 1);
         DUE.keeps("fits(2, 0, 0) of no days", none, () -> none.fits(2, 0, 0), 100);
