@@ -10,6 +10,7 @@ import java.nio.file.Files;
 import java.nio.file.Path;
 import java.util.ArrayList;
 import java.util.List;
+import java.util.Map;
 import java.util.Set;
 import java.util.TreeSet;
 import java.util.regex.Matcher;
@@ -68,9 +69,23 @@ public final class LanguageTest {
         int again()
         """;
 
-    private static final Set<String> LIBRARY = Set.of(
-        "java/lang/Object.<init>", "java/lang/String.length", "java/lang/String.charAt", "java/lang/System.arraycopy",
-        "java/lang/Math.max", "java/lang/Math.min", "java/lang/Integer.bitCount");
+    /** Rule 4: what a call may name of each class of the library; * stands for all but those whose name ends in Exact. */
+    private static final Map<String, Set<String>> LIBRARY = Map.of(
+        "java/lang/Object", Set.of("<init>"),
+        "java/lang/String", Set.of("length", "charAt", "isEmpty", "equals", "indexOf", "substring", "toCharArray", "<init>"),
+        "java/lang/StringBuilder", Set.of("<init>", "append", "charAt", "setCharAt", "setLength", "deleteCharAt", "reverse", "length", "toString"),
+        "java/util/ArrayList", Set.of("<init>", "add", "get", "set", "remove", "size", "isEmpty", "clear", "iterator"),
+        "java/util/List", Set.of("add", "get", "set", "remove", "size", "isEmpty", "clear", "iterator", "of"),
+        "java/util/Arrays", Set.of("copyOf", "copyOfRange", "fill"),
+        "java/lang/System", Set.of("arraycopy"),
+        "java/lang/Integer", Set.of("*"),
+        "java/lang/Long", Set.of("*"),
+        "java/lang/Math", Set.of("*"));
+
+    private static boolean isAllowed(String type, String call) {
+        Set<String> calls = LIBRARY.getOrDefault(type, Set.of());
+        return type.startsWith("LeafFalls") || type.startsWith("[") || calls.contains(call) || calls.contains("*") && !call.endsWith("Exact");
+    }
 
     public static void main(String[] args) throws IOException {
         face();
@@ -221,15 +236,13 @@ public final class LanguageTest {
             for (int i = 1; i < count; i++) {
                 yes("no call made at run time (a lambda, a joined text)", tags[i] != 18 && tags[i] != 15);
                 if (tags[i] == 7) {
-                    String name = texts[first[i]];
-                    boolean own = name.startsWith("LeafFalls") || name.startsWith("[");
-                    boolean known = Set.of("java/lang/Object", "java/lang/String", "java/lang/System", "java/lang/Math", "java/lang/Integer",
-                        "java/lang/StringBuilder").contains(name);
-                    yes("class " + name, own || known);
+                    String type = texts[first[i]];
+                    yes("class " + type, type.startsWith("LeafFalls") || type.startsWith("[") || LIBRARY.containsKey(type));
                 }
                 if (tags[i] == 10 || tags[i] == 11) {
-                    String name = texts[first[first[i]]] + "." + texts[first[second[i]]];
-                    yes("call " + name, name.startsWith("LeafFalls") || LIBRARY.contains(name));
+                    String type = texts[first[first[i]]];
+                    String call = texts[first[second[i]]];
+                    yes("call " + type + "." + call, isAllowed(type, call));
                 }
             }
         }

@@ -876,6 +876,13 @@ final class Model {
         });
     }
 
+    /** How many items a sheet has, if it is of a sort: for those who look at all of them. */
+    int items(int sheet, int sort) {
+        Object row = sheets[sheet];
+        boolean is = sort == 0 ? row instanceof byte[] : sort == 1 ? row instanceof short[] : sort == 2 ? row instanceof int[] : row instanceof long[];
+        return is ? length(row) : 0;
+    }
+
     int shelf(int shelf, int what, int n) {
         if (!in(shelf, 0, 3) || !in(what, 0, 2) || what == 0 && !leafs(n) || what == 1 && !in(n, 0, 3)) {
             return -1;

@@ -3,8 +3,11 @@ import java.util.List;
 
 /** Runs of calls on the class and on the model, side by side: every answer must be the same. */
 public final class ModelTest {
-    private static final int RUNS = 600;
+    private static final int RUNS = 4000;
     private static final int CALLS = 512;
+    /** As many calls as one step may take, and as a look at everything may take at most. */
+    private static final int STEP = 30;
+    private static final int LOOK = 365;
     private static final String[] SCRAPS = {
         "leaf on 1;", "red on 2 hold 30;", "yellow on 1 sign 4;", "scarlet on 5 hold 44 sign 9;", "gold on 1 hold 12 sign 7;",
         "evergreen on 0 hold 3;", "sway 1 is 0;", "sway 3 is 9;", "wind 0;", "wind 3;", "cold 9;", "wet 5;", "gale 60;", " ", "  ",
@@ -17,7 +20,6 @@ public final class ModelTest {
     private Model m;
     private final List<String> calls = new ArrayList<>();
     private boolean right;
-    private boolean looking;
     private int told;
 
     public static void main(String[] args) {
@@ -55,18 +57,21 @@ public final class ModelTest {
             if (dry > 0) {
                 plant(dry);
             }
-            for (int i = 0; i < CALLS && right; i++) {
-                step(below(100));
+            boolean looks = below(2) == 0;
+            while (right && calls.size() < CALLS - STEP - (looks ? LOOK : 0)) {
+                step(below(97));
             }
+            if (right && looks) {
+                all();
+            }
+            due.due("run " + run + " takes no more than 512 calls", calls.size() <= CALLS ? 1 : 0, 1);
             due.due("run " + run + " is right", right ? 1 : 0, 1);
         }
         due.close();
     }
 
     private void same(String call, long got, long want) {
-        if (!looking) {
-            calls.add(call + " -> " + got);
-        }
+        calls.add(call + " -> " + got);
         due.due(call, got, want);
         if (got != want && right) {
             right = false;
@@ -103,12 +108,8 @@ public final class ModelTest {
             tries();
         } else if (dice < 80) {
             rowsAndSheets();
-        } else if (dice < 97) {
-            asks();
         } else {
-            looking = true;
-            all();
-            looking = false;
+            asks();
         }
     }
 
@@ -347,17 +348,17 @@ public final class ModelTest {
             same("state(" + w + ")", x.state(w), m.state(w));
             same("many(" + w + ")", x.many(w), m.many(w));
         }
-        for (int i = 0; i < 30; i++) {
+        for (int i = 0; i < m.many(6); i++) {
             same("trace(" + i + ")", x.trace(i), m.trace(i));
         }
-        for (int i = 0; i < 10; i++) {
+        for (int i = 0; i < m.many(4); i++) {
             for (int w = 0; w < 3; w++) {
                 same("row(" + i + ", " + w + ")", x.row(i, w), m.row(i, w));
             }
         }
         for (int s = 0; s < 4; s++) {
             for (int sort = 0; sort < 4; sort++) {
-                for (int i = 0; i < 40; i++) {
+                for (int i = 0; i < m.items(s, sort); i++) {
                     same("item(" + s + ", " + sort + ", " + i + ")", x.item(s, sort, i), m.item(s, sort, i));
                 }
             }
