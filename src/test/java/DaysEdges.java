@@ -211,7 +211,9 @@ final class DaysEdges {
             """, """
             state(0) = 0  state(1) = 0  state(2) = 0  state(5) = 6  sway(0, 9) = 1  sway(1, 9) = 1  sway(2, 9) = 1  sway(3, 9) = 1  sway(4, 9) = 1  sway(5, 9) = 1
             state(5) = 54  sway(0, 0) = 9  state(5) = 45
-            """);
+            """,
+            // eight leaves, and then fewer than there were: the others count no more
+            "\"" + "leaf on 0 hold 99;".repeat(8) + "\" = 8  state(1) = 255  state(2) = 792  \"leaf on 1 hold 50;\" = 1  state(1) = 1  state(2) = 50  autumn() = 0  state(1) = 0  state(2) = 0");
         String four = "\"leaf on 0 sign 7; leaf on 0 sign 7; leaf on 1 sign 0; leaf on 1 sign 7; leaf on 0 sign 7;\" = 5 ";
         e.edge(20, "RHYMES: how many SIGNS that are WRITTEN are as the one written next ahead of it.",
             four + "state(3) = 0  pluck(0) = 4  state(3) = 0  pluck(1) = 3  state(3) = 1  pluck(2) = 2  state(3) = 1  pluck(3) = 1  state(3) = 1  pluck(4) = 0  state(3) = 2",

@@ -193,7 +193,11 @@ final class TapeEdges {
             // the first of two faults, and a place far behind
             "\"leaf on 9 hold 100;\" ! -108  \"wind 10 x\" ! -105  \"leaf no 9;\" ! -105  \"wind 1;cold 1;wet 1;gale 1;rain 1;\" ! -127",
             "\"" + ";".repeat(200) + "\" ! -100  \"" + " ".repeat(197) + "lea\" ! -297  \"" + " ".repeat(199) + ";\" ! -299",
-            "\"leaf on 1;leaf on 2;leaf on 3;leaf on 4;leaf on 5;leaf on 6;\" ! -158");
+            "\"leaf on 1;leaf on 2;leaf on 3;leaf on 4;leaf on 5;leaf on 6;\" ! -158",
+            // where a number is wanted, what would go on behind it is read no more
+            "\"leaf on hold x;\" ! -108  \"leaf on sign x;\" ! -108  \"leaf on hold 100;\" ! -108  \"leaf on 6 hold x;\" ! -108  \"leaf on 1 hold sign x;\" ! -115",
+            "\"leaf on 1 hold 100 sign 10;\" ! -115  \"sway is is x;\" ! -105  \"sway 6 is x;\" ! -105  \"sway 1 is ; x\" ! -110  \"wind ; x\" ! -105  \"wind x; x\" ! -105",
+            "\"leaf on 9;wind x;\" ! -108  \"wind 10;leaf on 9;\" ! -105  \"sway 1 is 10;leaf on 9;\" ! -110");
     }
 
     private static void faultsOfNumbers(Edges e) {

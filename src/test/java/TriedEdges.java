@@ -230,7 +230,8 @@ final class TriedEdges {
     private static void hope(Edges e) {
         e.edge(31, "HOPE by n (0 to 99): a part of it. BAD.",
             "hope(0, 0) ! 0  hope(0, 1) ! 1  hope(99, 0) ! 99  hope(99, 1) ! 5  hope(-1, 0) ! -1  hope(100, 0) ! -1  hope(MIN, 0) ! -1  hope(MAX, 0) ! -1"
-                + "  hope(5, -1) ! -1  hope(5, 2) ! -1  hope(5, MIN) ! -1  hope(5, MAX) ! -1");
+                + "  hope(5, -1) ! -1  hope(5, 2) ! -1  hope(5, MIN) ! -1  hope(5, MAX) ! -1",
+            "set(3, 30) = 20  hope(0, 0) ! 0  hope(0, 1) ! 1  hope(-1, 0) ! -1  hope(-1, 1) ! -1  hope(-99, 0) ! -1  hope(100, 0) ! -1  hope(100, 1) ! -1");
         e.edge(31, "HOPE by n: how many have on average.",
             "hope(1, 0) ! 1  hope(1, 1) ! 5  hope(5, 0) ! 1  hope(5, 1) ! 1  hope(7, 0) ! 7  hope(7, 1) ! 5",
             "set(3, 99) = 20  hope(99, 0) ! 9801  hope(99, 1) ! 100  hope(50, 0) ! 99  hope(50, 1) ! 2",
