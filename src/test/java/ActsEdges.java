@@ -155,6 +155,6 @@ final class ActsEdges {
 
     /** The 512th call of an object answers as the first one does. */
     private static void lastCall(Edges e) {
-        e.edge(15, "n DAYS (1 to 60): how many HANG then.", "leaf(5, 0, 99, 7) = 0 " + "days(60) = 1 ".repeat(2) + "days(60) = 0 ".repeat(508) + "state(0) = 30600");
+        e.edge(15, "An object is used for at most 512 calls after it has been made", "leaf(5, 0, 99, 7) = 0 " + "days(60) = 1 ".repeat(2) + "days(60) = 0 ".repeat(508) + "state(0) = 30600");
     }
 }

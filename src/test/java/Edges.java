@@ -15,7 +15,7 @@ import java.util.regex.Pattern;
 final class Edges {
     /** What names a boundary, a refusal or a number: where the document says it, a test must quote it. */
     private static final Pattern NAMED = Pattern.compile(
-        "\\d+|\\b(?:BAD|FULL|NONE|nothing|none|several|least|fewest|first|last|latest|most|cut|wrap|beyond|missing|end|also|any|held|latest|longs?)\\b");
+        "\\d+|\\b(?:BAD|FULL|NONE|nothing|none|several|least|fewest|first|last|latest|most|cut|wrap|beyond|missing|end|also|any|held|longs?)\\b");
     private static final Path DOCUMENT = Path.of("..", "shared", "DOC.md");
     private static final int PROMISES = 46;
 
@@ -89,14 +89,17 @@ final class Edges {
         return stands;
     }
 
-    /** What each promise says behind its call, by its number; 0: the terms ahead of them. White space is one blank. */
+    /** What each promise says behind its call, by its number; 0: what is said ahead of them. White space is one blank. */
     private static Map<Integer, String> parts(String document) {
-        Map<Integer, String> parts = new TreeMap<>();
+        Map<Integer, String> parts = new TreeMap<>(Map.of(0, ""));
         for (String part : document.split("(?m)^## ")) {
             String words = part.substring(part.indexOf('\n') + 1).replaceAll("```\\w*|=====+ \\d", " ").replaceAll("\\s+", " ").strip();
             Matcher m = Pattern.compile("Promise (\\d+)").matcher(part);
-            if (part.startsWith("Terms")) {
-                parts.put(0, words);
+            if (part.startsWith("What it is")) {
+                // the poem ahead of it promises nothing
+                parts.merge(0, words.substring(Math.max(0, words.indexOf("An object is used"))), String::concat);
+            } else if (part.startsWith("Terms")) {
+                parts.merge(0, " " + words, String::concat);
             } else if (m.lookingAt()) {
                 parts.put(Integer.parseInt(m.group(1)), words.replaceFirst("^`[^`]*`: ", ""));
             }

@@ -57,7 +57,7 @@ final class SheetsEdges {
             three + "prove(0, 6) = 6  judge(0) ! 0  judge(1) ! 3  judge(2) ! 1  judge(3) ! -1  judge(-1) ! -1",
             three + "prove(0, 10) = 10  judge(0) ! 0  alterRow(9, 0, 1) = 0  judge(0) ! 10  alterRow(8, 2, 7) = 3  judge(0) ! 9  alterRow(0, 1, 2) = 1  judge(0) ! 1",
             three + "prove(0, 1) = 1  judge(0) ! 0  alterRow(0, 0, 7) = 6  judge(0) ! 1  alterRow(0, 0, 6) = 7  judge(0) ! 0",
-            "judge(0) ! -1");
+            "judge(0) ! -1  leaf(0, 0, 9, 0) = 0  judge(0) ! 0  judge(1) ! -1  leaf(0, 0, 9, 0) = 1  judge(1) ! 0  judge(2) ! -1");
         StringBuilder each = new StringBuilder(three + "prove(0, 4) = 4 ");
         int[][] rows = {{6, 1, 0}, {2, 1, 1}, {0, 0, 2}, {0, 0, 3}};
         for (int i = 0; i < 4; i++) {

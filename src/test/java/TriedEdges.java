@@ -26,7 +26,10 @@ final class TriedEdges {
             days(2) = 5  sheet(0, 1, 4) = 1  put(0, 3, -1) = 1  keep() = 1  seed(5) = 1
             falls(1) ! 11  bare() ! 44  next() ! 3  latest() ! 0  boughFor(3) ! 0  kindFor(3) ! 5  holdFor(3, 5) ! 21  tiedFor(3, 1) ! -3
             fits(0, 3, 0) ! 0  lost(30) ! 1
-            """);
+            """,
+            // from how it is now, not from what was kept
+            "leaf(0, 0, 9, 0) = 0  pluck(0) = 0  keep() = 1  \"leaf on 1 hold 9;\" = 1  falls(0) ! 3  bare() ! 3  next() ! 0  latest() ! 0  boughFor(0) ! 0  kindFor(0) ! 5  holdFor(0, 1) ! 5"
+                + "  tiedFor(0, 2) ! 0  tiedFor(0, 3) ! -3");
     }
 
     private static void falls(Edges e) {
@@ -39,7 +42,9 @@ final class TriedEdges {
         e.edge(21, "FALLS of one. BAD; NONE: not by then.",
             "\"leaf on 0 hold 10 sign 4; leaf on 0 hold 10 sign 5; leaf on 1 hold 10 sign 0;\" = 3  falls(1) ! 3  falls(0) ! 4  falls(2) ! 5  falls(3) ! -1"
                 + "  falls(-1) ! -1  falls(MAX) ! -1  falls(MIN) ! -1  days(1) = 3  falls(1) ! 2  pluck(0) = 2  falls(0) ! 0  falls(2) ! 3",
-            "falls(0) ! -1");
+            "falls(0) ! -1  leaf(0, 0, 9, 0) = 0  falls(0) ! 3  falls(1) ! -1  leaf(0, 0, 9, 0) = 1  falls(1) ! 4  falls(2) ! -1",
+            // leaves of a text that was refused, or that are gone, are none
+            "leaf(0, 0, 9, 0) = 0  \"leaf on 1;leaf on 1;x\" ! -120  falls(0) ! 3  falls(1) ! -1  \"leaf on 1;leaf on 1;\" = 2  falls(1) ! 4  autumn() = 0  falls(0) ! -1");
     }
 
     private static void bare(Edges e) {
