@@ -33,7 +33,7 @@ final class ActsEdges {
     }
 
     private static void bodies(Edges e) {
-        e.edge(42, "10 turns: x * 2 + n * 5.", thing(0, 0, 4) + acts(0, -7, -14, 10), thing(0, 7, 9) + acts(0, 3, 41, 10) + acts(0, 0, 35, 10));
+        e.edge(42, "BODIES, each with its number: leaf: 10 turns: x * 2 + n * 5.", thing(0, 0, 4) + acts(0, -7, -14, 10), thing(0, 7, 9) + acts(0, 3, 41, 10) + acts(0, 0, 35, 10));
         e.edge(42, "11 names: turns(x) - a.", thing(0, 0, 4) + acts(1, -7, -18, 11, 10), thing(0, 7, 9) + acts(1, 3, 32, 11, 10));
         e.edge(42, "12 parts: x by (a - n), cut (-15 if these are the same; that is all that act() answers then).",
             thing(0, 0, 4) + acts(2, -7, -1, 12) + acts(2, -4, -1, 12) + acts(2, -3, 0, 12) + acts(2, 3, 0, 12) + acts(2, 8, 2, 12),

@@ -27,7 +27,7 @@ final class DaysEdges {
     }
 
     private static void holds(Edges e) {
-        String sentence = "(1) of each that HANGS: HOLD is what it LOSES less (held to 0 to 99), by all as the DAY begins.";
+        String sentence = "A DAY: (1) of each that HANGS: HOLD is what it LOSES less (held to 0 to 99), by all as the DAY begins.";
         e.edge(15, sentence,
             // each loses 4: one keeps 1, one has just nothing left, one would have less than nothing
             "leaf(0, 0, 5, 0) = 0  leaf(0, 1, 4, 1) = 1  leaf(0, 2, 3, 2) = 2  days(1) = 2  of(0, 2) = 1  of(1, 2) = 0  of(2, 2) = 0  of(1, 4) = 1  of(2, 5) = 1",

@@ -1,7 +1,6 @@
 import java.io.DataInputStream;
 import java.io.IOException;
 import java.io.InputStream;
-import java.lang.reflect.Constructor;
 import java.lang.reflect.Field;
 import java.lang.reflect.Method;
 import java.lang.reflect.Modifier;
@@ -20,54 +19,6 @@ import java.util.regex.Pattern;
 public final class LanguageTest {
     private static final Due DUE = new Due("LanguageTest");
     private static final Path SOURCE = Path.of("src/main/java/LeafFalls.java");
-
-    private static final String FACE = """
-        int feed(long,int)
-        int autumn()
-        int set(int,int)
-        int lawOf(int)
-        int leaf(int,int,int,int)
-        int of(int,int)
-        int does(int,int)
-        int mind(int,int,int)
-        int hold(int,int)
-        int move(int,int)
-        int pluck(int)
-        int bough(int,int)
-        int sway(int,int)
-        int days(int)
-        int seed(int)
-        int day()
-        int lost(int)
-        int written(int)
-        int state(int)
-        int falls(int)
-        int bare()
-        int next()
-        int latest()
-        int boughFor(int)
-        int kindFor(int)
-        int holdFor(int,int)
-        int tiedFor(int,int)
-        int fits(int,int,int)
-        long odds(int,int,int)
-        long hope(int,int)
-        int prove(int,int)
-        int row(int,int)
-        int alterRow(int,int,int)
-        int judge(int)
-        int minds(int,int,int,int)
-        int sheet(int,int,int)
-        int put(int,int,int)
-        int item(int,int,int)
-        int shelf(int,int,int)
-        int taken(int,int)
-        int act(int,int,int)
-        int trace(int)
-        int many(int)
-        int keep()
-        int again()
-        """;
 
     /** Rule 4: what a call may name of each class of the library; * stands for all but those whose name ends in Exact. */
     private static final Map<String, Set<String>> LIBRARY = Map.of(
@@ -105,38 +56,18 @@ public final class LanguageTest {
         DUE.due(what, is ? 1 : 0, 1);
     }
 
+    /** What isn't of the document's face (FaceTest looks at that) is private, and bears none of its names. */
     private static void face() {
         DUE.promise(1, "(rule) the face");
-        Set<String> want = new TreeSet<>(List.of(FACE.strip().split("\n")));
-        Set<String> got = new TreeSet<>();
         Set<String> names = new TreeSet<>();
         for (Method m : LeafFalls.class.getDeclaredMethods()) {
             if (Modifier.isPublic(m.getModifiers())) {
-                StringBuilder parameters = new StringBuilder();
-                for (Class<?> p : m.getParameterTypes()) {
-                    parameters.append(parameters.length() == 0 ? "" : ",").append(p.getName());
-                }
-                got.add(m.getReturnType().getName() + " " + m.getName() + "(" + parameters + ")");
                 names.add(m.getName());
-                yes(m.getName() + " is no static one", !Modifier.isStatic(m.getModifiers()));
             }
         }
-        if (!got.equals(want)) {
-            System.out.println("the face is " + got);
-        }
-        yes("the face is the document's", got.equals(want));
-        yes("the class is final and public", Modifier.isFinal(LeafFalls.class.getModifiers()) && Modifier.isPublic(LeafFalls.class.getModifiers()));
-        Constructor<?>[] constructors = LeafFalls.class.getDeclaredConstructors();
-        yes("one public constructor", constructors.length == 1 && Modifier.isPublic(constructors[0].getModifiers()));
-        Set<String> constants = new TreeSet<>();
         for (Field f : LeafFalls.class.getDeclaredFields()) {
-            if (Modifier.isPublic(f.getModifiers())) {
-                constants.add(f.getName());
-            } else {
-                yes("field " + f.getName() + " is private", Modifier.isPrivate(f.getModifiers()));
-            }
+            yes("field " + f.getName() + " is private", Modifier.isPublic(f.getModifiers()) || Modifier.isPrivate(f.getModifiers()));
         }
-        yes("the constants are the document's", constants.equals(Set.of("BAD", "FULL", "NONE")));
         for (Method m : LeafFalls.class.getDeclaredMethods()) {
             if (!Modifier.isPublic(m.getModifiers())) {
                 yes(m.getName() + " is private", Modifier.isPrivate(m.getModifiers()));

@@ -16,7 +16,7 @@ final class LeavesEdges {
     }
 
     private static void laws(Edges e) {
-        String[] laws = {"0 WIND (0 to 9; 2 at first)", "1 COLD (0 to 9; 1)", "2 WET (0 to 9; 1)", "3 GALE (0 to 99 of a hundred; 20)."};
+        String[] laws = {"LAWS: 0 WIND (0 to 9; 2 at first)", "1 COLD (0 to 9; 1)", "2 WET (0 to 9; 1)", "3 GALE (0 to 99 of a hundred; 20)."};
         int[] first = {2, 1, 1, 20};
         int[] most = {9, 9, 9, 99};
         for (int law = 0; law < 4; law++) {
@@ -71,7 +71,7 @@ final class LeavesEdges {
     }
 
     private static void of(Edges e) {
-        e.edge(7, "what = 0 KIND, 1 BOUGH, 2 HOLD, 3 SIGN, 4 1 if it HANGS, else 0, 5 as the how manyth it has FALLEN (0: it HANGS), 6 MATES. BAD.", """
+        e.edge(7, "Of one: what = 0 KIND, 1 BOUGH, 2 HOLD, 3 SIGN, 4 1 if it HANGS, else 0, 5 as the how manyth it has FALLEN (0: it HANGS), 6 MATES. BAD.", """
             leaf(3, 2, 50, 7) = 0  leaf(4, 2, 40, 6) = 1  leaf(1, 2, 30, 5) = 2  leaf(1, 1, 30, 5) = 3
             of(0, 0) ! 3  of(0, 1) ! 2  of(0, 2) ! 50  of(0, 3) ! 7  of(0, 4) ! 1  of(0, 5) ! 0  of(0, 6) ! 2
             pluck(1) = 3  pluck(0) = 2
@@ -82,7 +82,7 @@ final class LeavesEdges {
             """, """
             "leaf on 1;leaf on 1;leaf on 1;leaf on 1;leaf on 1;leaf on 1;leaf on 1;leaf on 2;" = 8  of(7, 1) = 2  of(8, 1) ! -1
             """);
-        e.edge(7, "it HANGS, or has FALLEN (as the how manyth: 1, 2, ..)", """
+        e.edge(7, "ON a BOUGH; it HANGS, or has FALLEN (as the how manyth: 1, 2, ..)", """
             "leaf on 1;leaf on 1;leaf on 1;leaf on 1;leaf on 1;leaf on 1;leaf on 1;leaf on 2;" = 8
             of(7, 5) = 0  pluck(7) = 7  of(7, 5) = 1  pluck(0) = 6  of(0, 5) = 2  pluck(6) = 5  pluck(1) = 4  pluck(5) = 3  pluck(2) = 2
             pluck(4) = 1  of(4, 5) = 7  of(3, 5) = 0  of(3, 4) = 1  pluck(3) = 0  of(3, 5) = 8  of(3, 4) = 0  of(7, 5) = 1
