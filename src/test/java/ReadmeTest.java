@@ -13,7 +13,6 @@ import java.util.TreeSet;
 import java.util.regex.Matcher;
 import java.util.regex.Pattern;
 import java.util.stream.Stream;
-import javax.tools.ToolProvider;
 
 /** The page README.md: its examples answer as it says, and its table of refusals names what the document's promises name. */
 public final class ReadmeTest {
@@ -78,8 +77,8 @@ public final class ReadmeTest {
         Path out = Files.createTempDirectory("readme");
         try {
             Path source = Files.writeString(out.resolve("Examples.java"), code);
-            int rc = ToolProvider.getSystemJavaCompiler().run(null, null, null,
-                "-cp", System.getProperty("java.class.path"), "-d", out.toString(), source.toString());
+            int rc = new ProcessBuilder("javac", "-cp", System.getProperty("java.class.path"), "-d", out.toString(), source.toString())
+                .inheritIO().start().waitFor();
             DUE.due("the examples compile (0)", rc, 0);
             if (rc == 0) {
                 try (URLClassLoader loader = new URLClassLoader(new URL[] {out.toUri().toURL()}, ReadmeTest.class.getClassLoader())) {
